@@ -135,6 +135,17 @@ public final class HandTest {
             count 10 -> 13
             penOf 0 10 -> 2
             """);
+        Script.run("promise 11: clogged at the begin", """
+            pen 0 100 0 0 -> 0
+            line 1 0 5 0 -> 0
+            take 0 -> 0
+            waits 40 -> 45
+            draw 0 0 -> IMPOSSIBLE
+            undo -> 3
+            waits 39 -> 44
+            draw 0 1 -> IMPOSSIBLE
+            draw 0 0 -> 49                 # 40 idle ticks when the hand was there
+            """);
     }
 
     private static void erase() {

@@ -115,6 +115,44 @@ public final class PlansTest {
             tour 0 1 -> 0
             tour 0 2 -> 171
             """);
+        Script.run("promise 27: up and down", """
+            pen 0 500 0 0 -> 0
+            line 0 10 0 20 -> 0
+            line 30 25 40 25 -> 1
+            line 0 28 9 28 -> 2
+            line 60 50 50 25 -> 3
+            line 60 60 99 60 -> 4
+            line 62 25 63 25 -> 5
+            take 0 -> 0
+            tour 0 0 -> 0
+            tour 0 2 -> 20
+            tour 1 0 -> 2
+            tour 1 2 -> 37
+            tour 2 0 -> 1
+            tour 2 2 -> 68
+            tour 3 0 -> 3
+            tour 3 1 -> 1
+            tour 3 2 -> 103
+            tour 4 0 -> 4
+            tour 4 1 -> 0
+            tour 4 2 -> 152
+            tour 5 0 -> 5
+            tour 5 1 -> 1
+            tour 5 2 -> 189
+            """);
+        Script.run("promise 27: the nearer end counts", """
+            pen 0 500 0 0 -> 0
+            line 5 0 95 0 -> 0
+            line 0 8 0 9 -> 1
+            line 99 3 97 0 -> 2
+            take 0 -> 0
+            tour 0 0 -> 0
+            tour 1 0 -> 2
+            tour 1 1 -> 1
+            tour 2 0 -> 1
+            tour 2 1 -> 0
+            tour 2 2 -> 200                # 95, 5 and 100
+            """);
     }
 
     private static void count() {
@@ -212,6 +250,25 @@ public final class PlansTest {
             count 22 -> 10
             count 1 -> 1                   # the oldest states were dropped
             undo -> IMPOSSIBLE
+            """);
+        Script.run("promise 29: a line that was drawn twice", """
+            pen 0 100 0 0 -> 0
+            line 0 0 10 0 -> 0
+            set 2 50 -> 10
+            take 0 -> 0
+            draw 0 0 -> 15
+            erase 0 -> 0
+            set 2 0 -> 50
+            draw 0 1 -> 25
+            lineOf 0 7 -> 25
+            lineOf 0 8 -> 0
+            lineOf 0 9 -> 90/100
+            undo -> 3
+            undo -> 2
+            undo -> 1
+            lineOf 0 7 -> 15
+            lineOf 0 8 -> 1
+            lineOf 0 9 -> 1/1
             """);
         Script.run("promise 29: every change", """
             pen 0 500 0 0 -> 0

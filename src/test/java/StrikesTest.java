@@ -130,6 +130,11 @@ public final class StrikesTest {
             touching 2 -> 72
             touching 7 -> 16
             touching 4 -> 160
+            line 0 0 50 49 -> 9            # side by side, as near as can be
+            line 1 1 51 50 -> 10
+            touch 9 10 -> 0
+            touch 10 9 -> 0
+            touch 9 0 -> 1
             """);
         Script.run("promise 21: level and upright", """
             line 0 50 30 50 -> 0

@@ -232,6 +232,17 @@ public final class TextsTest {
             text c;
             play -> IMPOSSIBLE
             """);
+        Script.run("promise 33: wet lines and shades", """
+            pen 0 20 0 0 -> 0
+            line 0 0 10 0 -> 0
+            line 10 0 10 5 -> 1
+            text p0;d0;d1;
+            play -> 3
+            lineOf 0 8 -> 1
+            lineOf 1 8 -> 1
+            lineOf 0 9 -> 1/1
+            lineOf 1 9 -> 10/20
+            """);
         Script.run("promise 33: as many as fit", """
             pen 0 500 0 0 -> 0
             take 0 -> 0

@@ -1,8 +1,20 @@
+import java.util.ArrayList;
+import java.util.List;
 import java.util.stream.IntStream;
 
 /** All that an object tells of its state, but the number of states in the history. */
 final class Answers {
     private Answers() {
+    }
+
+    /** The answers of now and of each state of the history, the latest one first; it takes them all back. */
+    static List<int[]> deepOf(PenStrike p) {
+        List<int[]> all = new ArrayList<>();
+        all.add(of(p));
+        for (int i = 0; i < 10 && p.undo() >= 0; i++) {
+            all.add(of(p));
+        }
+        return all;
     }
 
     static int[] of(PenStrike p) {

@@ -1,13 +1,5 @@
 /** Promises 9 to 16: the hand. */
 public final class HandTest {
-    private static final String NEAR_THE_END = """
-        text w200;w200;w200;w200;w200;w200;w200;w200;w200;w200;w200;w200;
-        again 41 play
-        again 7 waits 200
-        clearText -> 60
-        count 4 -> 99800
-        """;
-
     public static void main(String[] args) {
         swaps();
         draw();
@@ -51,7 +43,10 @@ public final class HandTest {
             count 9 -> 2
             count 4 -> 13
             """);
-        Script.run("promise 9: the time", "pen 0 100 0 0 -> 0\npen 0 100 0 1 -> 1\n" + NEAR_THE_END + """
+        Script.run("promise 9: the time", """
+            pen 0 100 0 0 -> 0
+            pen 0 100 0 1 -> 1
+            till 99800
             waits 196 -> 99996
             take 0 -> LIMIT
             take 2 -> INVALID
@@ -87,7 +82,11 @@ public final class HandTest {
             count 9 -> 1
             penOf 1 4 -> 0
             """);
-        Script.run("promise 10: the time", "pen 0 100 0 0 -> 0\ntake 0 -> 0\nundo -> 1\n" + NEAR_THE_END + """
+        Script.run("promise 10: the time", """
+            pen 0 100 0 0 -> 0
+            take 0 -> 0
+            undo -> 1
+            till 99800
             home -> IMPOSSIBLE
             take 0 -> 0
             waits 191 -> 99996
@@ -201,7 +200,8 @@ public final class HandTest {
             penOf 1 4 -> 0
             count 4 -> 216
             """);
-        Script.run("promise 13: the time", NEAR_THE_END + """
+        Script.run("promise 13: the time", """
+            till 99800
             waits 201 -> INVALID
             waits 1 -> 99801
             waits 200 -> LIMIT
@@ -235,7 +235,9 @@ public final class HandTest {
             home -> 0
             clean -> IMPOSSIBLE
             """);
-        Script.run("promise 14: the time", "pen 0 100 0 0 -> 0\n" + NEAR_THE_END + """
+        Script.run("promise 14: the time", """
+            pen 0 100 0 0 -> 0
+            till 99800
             clean -> IMPOSSIBLE
             take 0 -> 0
             waits 192 -> 99997
@@ -317,7 +319,11 @@ public final class HandTest {
             waits 4 -> 29
             whyNot 3 0 -> 5
             """);
-        Script.run("promise 15: the time", "pen 0 300 0 0 -> 0\nline 3 0 9 0 -> 0\nline 9 0 9 7 -> 1\n" + NEAR_THE_END + """
+        Script.run("promise 15: the time", """
+            pen 0 300 0 0 -> 0
+            line 3 0 9 0 -> 0
+            line 9 0 9 7 -> 1
+            till 99800
             take 0 -> 0
             waits 186 -> 99991
             clean -> 186
@@ -334,7 +340,12 @@ public final class HandTest {
             whyNot 1 0 -> 7
             draw 1 0 -> IMPOSSIBLE
             """);
-        Script.run("promise 15: wet rather than late", "pen 0 300 0 0 -> 0\npen 0 300 0 1 -> 1\nline 0 0 9 0 -> 0\nline 0 0 9 9 -> 1\n" + NEAR_THE_END + """
+        Script.run("promise 15: wet rather than late", """
+            pen 0 300 0 0 -> 0
+            pen 0 300 0 1 -> 1
+            line 0 0 9 0 -> 0
+            line 0 0 9 9 -> 1
+            till 99800
             take 0 -> 0
             waits 180 -> 99985
             set 4 0 -> 4
@@ -405,7 +416,13 @@ public final class HandTest {
             set 1 24 -> 40
             waitFor 2 0 -> MISSING         # 25 idle ticks then
             """);
-        Script.run("promise 16: the time", "pen 0 300 0 0 -> 0\npen 0 300 0 1 -> 1\nline 0 0 9 0 -> 0\nline 9 0 9 9 -> 1\nset 2 20 -> 10\n" + NEAR_THE_END + """
+        Script.run("promise 16: the time", """
+            pen 0 300 0 0 -> 0
+            pen 0 300 0 1 -> 1
+            line 0 0 9 0 -> 0
+            line 9 0 9 9 -> 1
+            set 2 20 -> 10
+            till 99800
             take 0 -> 0
             waits 140 -> 99945
             clean -> 140

@@ -152,9 +152,8 @@ public final class TextsTest {
         Script.run("promise 32: the time", """
             pen 0 500 0 0 -> 0
             line 0 0 10 0 -> 0
-            text w200;w200;w200;w200;w200;w200;w200;w200;w200;w200;w200;w200;
-            again 41 play
-            again 7 waits 200
+            till 99800
+            text w200;w200;
             fault 0 -> 5                   # 99800 and 200, but no more
             fault 1 -> 3
             fault 2 -> MISSING

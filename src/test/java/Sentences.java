@@ -67,7 +67,7 @@ final class Sentences {
     private void addSentences(String line) {
         boolean isList = line.startsWith("- ") || (line.startsWith("Returns ") && heading.startsWith("Promise"));
         String text = line.replaceFirst("^- ", "").replaceFirst("^`[A-Za-z ]+\\([^`]*`: ", "");
-        for (String sentence : text.split(isList ? "; " : "(?<=\\.) (?=[A-Z(])|(?<=\\)) (?=[A-Z])")) {
+        for (String sentence : text.split(isList ? "; " : "(?<=\\.) (?=[A-Z(])|, (?=\\d )")) {
             open.add(sentence.replaceFirst("\\.$", ""));
         }
     }

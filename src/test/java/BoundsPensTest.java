@@ -401,6 +401,7 @@ public final class BoundsPensTest {
             penOf 0 6 -> 1
             penOf 1 6 -> 0
             draw 0 0 -> 9
+            penOf 0 1 -> 20
             penOf 0 2 -> 12
             penOf 0 3 -> 4
             penOf 0 4 -> 0

@@ -138,6 +138,26 @@ public final class BoundsPlansTest {
             tour 0 0 -> 1
             tour 0 2 -> 9
             """);
+        promise.hold("`what`: 0: the line; 1: 0 if it is drawn from its first end, 1 if from its second end", """
+            pen 0 500 0 0 -> 0
+            line 0 30 0 20 -> 0
+            line 5 20 9 40 -> 1
+            line 9 60 9 50 -> 2
+            line 9 5 9 15 -> 3
+            take 0 -> 0
+            tour 0 0 -> 3                  # 9 away
+            tour 0 1 -> 0
+            tour 0 2 -> 19
+            tour 1 0 -> 1                  # 5 away, from 9, 15
+            tour 1 1 -> 0
+            tour 1 2 -> 44
+            tour 2 0 -> 0                  # 10 away, from 9, 40, as line 2 is
+            tour 2 1 -> 0
+            tour 2 2 -> 64
+            tour 3 0 -> 2                  # 30 away, from 0, 20
+            tour 3 1 -> 1
+            tour 3 2 -> 104
+            """);
         promise.hold("Returns something of the tour of the pen in the hand", lines + """
             pen 0 500 0 1 -> 1
             take 0 -> 0

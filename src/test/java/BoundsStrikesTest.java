@@ -150,6 +150,16 @@ public final class BoundsStrikesTest {
             leave 2 0 -> 2
             spread -> 7
             """);
+        promise.hold("Returns the greatest drawn length of the pens", THREE_PENS + """
+            line 0 0 9 0 -> 0
+            take 2 -> 0
+            draw 0 0 -> 14
+            penOf 2 2 -> 482
+            spread -> 9                    # by lengths, not by ink
+            fairSpread -> 9
+            refill 2 -> 18
+            spread -> 9
+            """);
         promise.hold("Returns the difference; NOT_FOUND if there are no such pens", """
             spread -> MISSING
             pen 0 500 0 0 -> 0
@@ -272,6 +282,25 @@ public final class BoundsStrikesTest {
             erase 1 -> 2
             seams -> 0
             draw 2 1 -> 37
+            seams -> 1
+            """);
+        promise.hold("Counts the seams", THREE_PENS + """
+            line 3 8 12 5 -> 0
+            line 12 5 20 9 -> 1
+            line 3 8 20 9 -> 2
+            line 8 3 5 12 -> 3             # the same numbers, but other points
+            set 1 200 -> 40
+            set 2 0 -> 10
+            text p0;d0;p1;d1;
+            play -> 4
+            seams -> 1
+            text p2;d2;
+            play -> 2
+            seams -> 3
+            text p1;d3;
+            play -> 2
+            seams -> 3
+            erase 0 -> 0
             seams -> 1
             """);
         promise.hold("Returns how many points are seams", THREE_PENS + """

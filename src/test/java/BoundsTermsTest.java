@@ -179,6 +179,30 @@ public final class BoundsTermsTest {
             line 18 1 19 0 -> 8            # ends ahead of it
             touch 0 8 -> 0
             """);
+        section.hold(touch, """
+            line 50 20 50 30 -> 0
+            line 50 31 50 40 -> 1          # a gap of one, upright
+            line 50 40 50 31 -> 2
+            line 50 10 50 19 -> 3
+            line 50 19 50 10 -> 4
+            touching 0 -> 0
+            touching 1 -> 4
+            touching 3 -> 16
+            line 50 19 50 20 -> 5
+            touching 5 -> 25
+            line 50 31 50 30 -> 6
+            touching 6 -> 7
+            line 50 28 50 22 -> 7          # inside of it
+            touching 7 -> 1
+            line 50 99 50 0 -> 8           # over all of them
+            touching 8 -> 255
+            line 1 1 51 50 -> 9            # side by side, as near as can be
+            line 0 0 50 49 -> 10
+            touching 10 -> 256             # line 8 alone
+            touching 9 -> 256
+            line 0 1 1 1 -> 11             # an end upon one of them
+            touching 11 -> 512
+            """);
     }
 
     private static void pens() {

@@ -186,6 +186,23 @@ public final class BoundsTextsTest {
             count 12 -> 16
             play -> 6
             """);
+        promise.hold("Does all orders of the text", """
+            pen 1 27 2 0 -> 0
+            line 3 20 12 28 -> 0
+            line 12 29 12 33 -> 1
+            line 12 33 12 38 -> 2
+            text p0;r0;d1;d2;
+            fault 0 -> 9
+            fault 2 -> 4                   # a broad pen: 18 and 8, and 1 is left
+            text p0;r0;d1;
+            play -> 3
+            count 4 -> 55                  # 5, 28 and 9, 9 and 4
+            count 6 -> 12
+            count 7 -> 33
+            penOf 0 2 -> 1
+            text d2;
+            fault 2 -> 4
+            """);
         promise.hold("They are one change, also if there are none", """
             play -> 0
             play -> 0
